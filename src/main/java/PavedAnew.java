@@ -78,9 +78,6 @@ public final class PavedAnew {
         if (!isKind(kind) || !isWithin(above, 0, MOST_WEAR) || !isWithin(below, 0, MOST_WEAR)) {
             return OUTSIDE;
         }
-        if (street.size() >= PLACES) {
-            return FULL;
-        }
         return street.add(kind, above, below);
     }
 
@@ -598,13 +595,17 @@ public final class PavedAnew {
         }
     }
 
-    /** All that an IMAGE keeps: BLOCKS, how they lie, HEADS, WHEELS, WAS. */
+    /**
+     * All that an IMAGE keeps: BLOCKS, how they lie, HEADS, WHEELS, WAS. There are never more BLOCKS than
+     * PLACES, and each PLACE below that number has its own: who asks names a BLOCK that is there, or a PLACE
+     * of the seven, so that no index leaves the rows.
+     */
     private static final class Street {
         private final int[] kinds = new int[PLACES];
         private final int[] above = new int[PLACES];
         private final int[] below = new int[PLACES];
         private final int[] yearAgo = new int[PLACES];
-        private final int[] placeOf = new int[PLACES];
+        private final int[] places = new int[PLACES];
         private final int[] lying = new int[PLACES];
         private final int[] wheelsIn = new int[PLACES];
         private int size;
@@ -639,6 +640,10 @@ public final class PavedAnew {
             return yearAgo[block];
         }
 
+        int placeOf(int block) {
+            return places[block];
+        }
+
         int blockIn(int place) {
             return lying[place];
         }
@@ -652,12 +657,15 @@ public final class PavedAnew {
                 case 0: return kinds[block];
                 case 1: return above[block];
                 case 2: return below[block];
-                case 3: return placeOf[block];
+                case 3: return places[block];
                 default: return yearAgo[block];
             }
         }
 
         int add(int kind, int wearAbove, int wearBelow) {
+            if (size >= PLACES) {
+                return FULL;
+            }
             int block = size;
             kinds[block] = kind;
             above[block] = wearAbove;
@@ -669,7 +677,7 @@ public final class PavedAnew {
         }
 
         void takeAway(int block) {
-            for (int place = placeOf[block]; place + 1 < size; place++) {
+            for (int place = places[block]; place + 1 < size; place++) {
                 put(lying[place + 1], place);
             }
             for (int number = block; number + 1 < size; number++) {
@@ -677,7 +685,7 @@ public final class PavedAnew {
                 above[number] = above[number + 1];
                 below[number] = below[number + 1];
                 yearAgo[number] = yearAgo[number + 1];
-                put(number, placeOf[number + 1]);
+                put(number, places[number + 1]);
             }
             size--;
         }
@@ -687,14 +695,14 @@ public final class PavedAnew {
             System.arraycopy(other.above, 0, above, 0, PLACES);
             System.arraycopy(other.below, 0, below, 0, PLACES);
             System.arraycopy(other.yearAgo, 0, yearAgo, 0, PLACES);
-            System.arraycopy(other.placeOf, 0, placeOf, 0, PLACES);
+            System.arraycopy(other.places, 0, places, 0, PLACES);
             System.arraycopy(other.lying, 0, lying, 0, PLACES);
             System.arraycopy(other.wheelsIn, 0, wheelsIn, 0, PLACES);
             size = other.size;
         }
 
         private void put(int block, int place) {
-            placeOf[block] = place;
+            places[block] = place;
             lying[place] = block;
         }
 
@@ -733,7 +741,7 @@ public final class PavedAnew {
         }
 
         boolean lieTogether(int block, int other) {
-            return Math.abs(placeOf[block] - placeOf[other]) == 1;
+            return Math.abs(places[block] - places[other]) == 1;
         }
 
         /** By how much a YEAR in a PLACE wears a BLOCK. */
@@ -760,7 +768,7 @@ public final class PavedAnew {
 
         void wearForAYear() {
             for (int block = 0; block < size; block++) {
-                above[block] = wornHead(above[block], block, placeOf[block]);
+                above[block] = wornHead(above[block], block, places[block]);
             }
         }
 
@@ -816,7 +824,7 @@ public final class PavedAnew {
         private static int wayTo(Street street, Order order, int from, int to) {
             int way = 0;
             for (int place = from; place < to; place++) {
-                way += Math.abs(street.told(order.blockIn(place), 3) - place);
+                way += Math.abs(street.placeOf(order.blockIn(place)) - place);
             }
             return way;
         }
@@ -844,7 +852,7 @@ public final class PavedAnew {
             int place = start;
             for (int step = 0; step < order.size(); step++) {
                 seen |= 1 << place;
-                place = street.told(order.blockIn(place), 3);
+                place = street.placeOf(order.blockIn(place));
             }
             return seen;
         }
@@ -877,31 +885,35 @@ public final class PavedAnew {
 
     /**
      * All LAWFUL ORDERS of a STREET. What can still come depends only on which BLOCKS are laid, which one
-     * lies last and whether that one is a TWIN without another: so these states are looked at, from the
-     * last PLACE to the first, in place of some thousand ORDERS one by one.
+     * lies at the end and whether that one is a TWIN without another: so these states are looked at, from
+     * the last PLACE to the first, in place of some thousand ORDERS one by one. Sets of BLOCKS are bits.
      */
     private static final class Layings {
-        private static final int SETS = 128;
         private static final int NO_BLOCK = 7;
+        private static final int STATES = 128 * 8 * 2;
+        private static final int START = NO_BLOCK * 2;
         private static final int NEVER = MOST_WEAR + 1;
 
-        private final int[] ways = new int[SETS * 16];
-        private final int[] least = new int[SETS * 16];
+        private final int[] ways = new int[STATES];
+        private final int[] least = new int[STATES];
         private final int[] wearIn = new int[PLACES * PLACES];
+        private final int[] mayBeside = new int[PLACES + 1];
         private final Order found = new Order();
-        private Street street;
-        private Law rule;
+        private int size;
+        private int needy;
 
-        void study(Street studied, Law ruling) {
-            street = studied;
-            rule = ruling;
-            noteWear();
-            int all = (1 << studied.size()) - 1;
+        void study(Street street, Law rule) {
+            size = street.size();
+            noteWear(street, rule);
+            noteNeighbours(street, rule);
+            int all = (1 << size) - 1;
             for (int laid = all; laid >= 1; laid--) {
-                for (int end = 0; end < studied.size(); end++) {
+                for (int end = 0; end < size; end++) {
                     if (isIn(laid, end)) {
                         settle(laid, end, 0, laid == all);
-                        settleAlone(laid, end, laid == all);
+                    }
+                    if (isIn(laid & needy, end)) {
+                        settle(laid, end, 1, false);
                     }
                 }
             }
@@ -909,26 +921,22 @@ public final class PavedAnew {
         }
 
         int ordersFound() {
-            return ways[stateOf(0, NO_BLOCK, 0)];
+            return ways[START];
         }
 
         /** WORST behind a YEAR by the BEST ORDER. */
         int leastWorst() {
-            return least[stateOf(0, NO_BLOCK, 0)];
+            return least[START];
         }
 
         /** The first of the ORDERS that keep to the least WORST; some ORDER must be LAWFUL. */
         Order bestOrder() {
             found.clear();
-            if (street == null || rule == null) {
-                return found;
-            }
-            int goal = leastWorst();
             int laid = 0;
             int end = NO_BLOCK;
             int alone = 0;
-            for (int place = 0; place < street.size(); place++) {
-                int next = firstToward(goal, laid, end, alone);
+            for (int place = 0; place < size; place++) {
+                int next = firstToward(leastWorst(), laid, end, alone);
                 alone = aloneThen(end, next);
                 laid |= 1 << next;
                 end = next;
@@ -938,57 +946,61 @@ public final class PavedAnew {
         }
 
         private int firstToward(int goal, int laid, int end, int alone) {
-            for (int next = 0; next < street.size(); next++) {
-                if (mayCome(laid, end, alone, next) && worstWith(laid, end, next) <= goal) {
+            int place = Integer.bitCount(laid);
+            int open = openTo(laid, end, alone);
+            for (int next = 0; next < size; next++) {
+                if (isIn(open, next) && wearIn[next * PLACES + place] <= goal
+                        && least[stateThen(laid, end, next)] <= goal) {
                     return next;
                 }
             }
             return 0;
         }
 
-        private void noteWear() {
-            for (int block = 0; block < street.size(); block++) {
-                for (int place = 0; place < street.size(); place++) {
+        private void noteWear(Street street, Law rule) {
+            for (int block = 0; block < size; block++) {
+                for (int place = 0; place < size; place++) {
                     wearIn[block * PLACES + place] = street.wearIfLaid(block, place, rule.turns());
                 }
             }
         }
 
-        private void settleAlone(int laid, int end, boolean whole) {
-            if (rule.wantsTwinsTogether() && street.isTwin(end)) {
-                settle(laid, end, 1, whole);
-            }
-        }
-
-        private void settle(int laid, int end, int alone, boolean whole) {
-            int state = stateOf(laid, end, alone);
-            if (whole) {
-                ways[state] = alone == 0 ? 1 : 0;
-                least[state] = alone == 0 ? 0 : NEVER;
-                return;
-            }
-            int sum = 0;
-            int lowest = NEVER;
-            for (int next = 0; next < street.size(); next++) {
-                if (mayCome(laid, end, alone, next)) {
-                    sum += ways[stateThen(laid, end, next)];
-                    lowest = Math.min(lowest, worstWith(laid, end, next));
+        private void noteNeighbours(Street street, Law rule) {
+            needy = 0;
+            for (int block = 0; block < size; block++) {
+                if (rule.wantsTwinsTogether() && street.isTwin(block)) {
+                    needy |= 1 << block;
+                }
+                mayBeside[block] = 0;
+                for (int other = 0; other < size; other++) {
+                    if (rule.letsLieTogether(street, block, other)) {
+                        mayBeside[block] |= 1 << other;
+                    }
                 }
             }
-            ways[state] = sum;
-            least[state] = lowest;
+            mayBeside[NO_BLOCK] = (1 << size) - 1;
         }
 
-        private boolean mayCome(int laid, int end, int alone, int next) {
-            if (isIn(laid, next) || (alone == 1 && !street.isTwin(next))) {
-                return false;
-            }
-            return end == NO_BLOCK || rule.letsLieTogether(street, end, next);
-        }
-
-        private int worstWith(int laid, int end, int next) {
+        private void settle(int laid, int end, int alone, boolean mayEnd) {
+            int sum = mayEnd ? 1 : 0;
+            int lowest = mayEnd ? 0 : NEVER;
             int place = Integer.bitCount(laid);
-            return Math.max(wearIn[next * PLACES + place], least[stateThen(laid, end, next)]);
+            int open = openTo(laid, end, alone);
+            for (int next = 0; next < size; next++) {
+                if (isIn(open, next)) {
+                    int then = stateThen(laid, end, next);
+                    sum += ways[then];
+                    lowest = Math.min(lowest, Math.max(wearIn[next * PLACES + place], least[then]));
+                }
+            }
+            ways[stateOf(laid, end, alone)] = sum;
+            least[stateOf(laid, end, alone)] = lowest;
+        }
+
+        /** The BLOCKS that may come next. */
+        private int openTo(int laid, int end, int alone) {
+            int open = mayBeside[end] & ~laid;
+            return alone == 1 ? open & needy : open;
         }
 
         private int stateThen(int laid, int end, int next) {
@@ -996,14 +1008,11 @@ public final class PavedAnew {
         }
 
         private int aloneThen(int end, int next) {
-            if (!rule.wantsTwinsTogether() || !street.isTwin(next)) {
-                return 0;
-            }
-            return end != NO_BLOCK && street.isTwin(end) ? 0 : 1;
+            return isIn(needy, next) && !isIn(needy, end) ? 1 : 0;
         }
 
-        private static boolean isIn(int laid, int block) {
-            return (laid >> block & 1) == 1;
+        private static boolean isIn(int blocks, int block) {
+            return (blocks >> block & 1) == 1;
         }
 
         private static int stateOf(int laid, int end, int alone) {

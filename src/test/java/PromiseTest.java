@@ -191,6 +191,10 @@ public final class PromiseTest {
                 due("5: MOST of " + text, x.lawTold(3), most);
             }
         }
+        x.law();
+        for (int what = 0; what < 4; what++) {
+            due("5: another one is gone, " + what, x.lawTold(what), what < 3 ? 0 : 10);
+        }
         for (String text : new String[] {"m", "ntwm", "nn", "tn", "m0", "m12", "x", "ntx", "mt", "wn"}) {
             noLaw(text);
         }
@@ -391,6 +395,11 @@ public final class PromiseTest {
         due("15: three together", w.lawful(Checks.order(1, 4, 0, 2, 3)), 1);
         due("15: at the end", w.lawful(Checks.order(1, 3, 0, 2, 4)), 1);
         due("15: two and one", w.lawful(Checks.order(1, 0, 2, 3, 4)), 0);
+        PavedAnew pair = street("w", 3, 0, 3, 0);
+        due("15: two in the first PLACES", pair.lawful(Checks.order(0, 2, 1, 3)), 1);
+        due("15: two in the last PLACES", pair.lawful(Checks.order(1, 3, 2, 0)), 1);
+        due("15: two in the middle", pair.lawful(Checks.order(1, 0, 2, 3)), 1);
+        due("15: two at both ends", pair.lawful(Checks.order(0, 1, 3, 2)), 0);
         due("15: one TWIN alone", street("w", 3, 0).lawful(Checks.order(0, 1)), 0);
         due("15: no TWIN", street("w", 1, 4).lawful(Checks.order(0, 1)), 1);
         due("15: two BLOCKS are side by side ever", street("n", 0, 0).lawful(Checks.order(1, 0)), 0);
@@ -494,6 +503,10 @@ public final class PromiseTest {
         due("18: the first LAWFUL one", n.best(1), Checks.order(1, 3, 0, 2));
         PavedAnew w = street("w", 3, 0, 3);
         due("18: TWINS together", w.best(1), Checks.order(0, 2, 1));
+        due("18: each TWIN by another", street("w", 3, 0, 3, 3).best(1), Checks.order(0, 2, 3, 1));
+        PavedAnew idle = street("", 0, 2);
+        setWheels(idle, 0, 0);
+        due("18: nothing is worn", idle.best(0), 0);
         PavedAnew high = new PavedAnew();
         high.block(0, 999, 0);
         high.block(2, 995, 0);
@@ -753,6 +766,14 @@ public final class PromiseTest {
         setWheels(stays, 1, 9);
         due("26: both HEADS must be worn", stays.springs(11, 0), 0);
         due("26: the twelfth", stays.springs(12, 1), 12);
+        PavedAnew burnt = underLaw("tm1");
+        burnt.block(0, 100, 98);
+        burnt.block(4, 0, 0);
+        setWheels(burnt, 2, 2);
+        due("26: BURNT in the first", burnt.springs(1, 1), 1);
+        due("26: a new one lies there", burnt.springs(1, 2), 1);
+        due("26: not worn on its other HEAD", burnt.springs(2, 2), 2);
+        due("26: nor on this one", burnt.springs(3, 2), 3);
         PavedAnew never = new PavedAnew();
         never.block(0, 999, 999);
         never.block(0, 999, 999);
