@@ -319,10 +319,11 @@ public final class LastYearEdgesTest {
         edges.due("turned each time, the MARKED not", t.springs(6, 2), 12);
         PavedAnew n = Streets.plain("n", 4);
         Streets.wheels(n, 9, 0, 0, 0);
-        // 1 3 0 2, then 0 1 2 3, then 1 3 0 2 again: no other ones are LAWFUL by how they lie then
-        edges.due("by how they lie then", n.springs(1, 2), 9);
-        edges.due("the second", n.springs(2, 2), 9);
-        edges.due("the third", n.springs(3, 2), 9);
+        // 1 3 0 2, 0 1 2 3, 2 0 3 1, 3 2 1 0: each has another BLOCK in PLACE 0, so that only a fifth wears one twice
+        for (int springs = 1; springs <= 4; springs++) {
+            edges.due("by n, " + springs, n.springs(springs, 2), 9);
+        }
+        edges.due("by n, 5", n.springs(5, 2), 18);
     }
 
     private void noneLawfulTheyStay() {
@@ -362,9 +363,12 @@ public final class LastYearEdgesTest {
     private void aNewOneOfItsKind() {
         edges.sentence(0, "a new one (both 0) of its KIND lies there");
         edges.due("its HEAD above", oneBlock("m1", 99, 100).springs(1, 2), 1);
-        PavedAnew t = oneBlock("tm1", 100, 99);
-        edges.due("BURNT, turned", t.springs(1, 1), 1);
-        edges.due("its other HEAD", t.springs(2, 2), 1);
+        PavedAnew t = Streets.underLaw("tm1");
+        t.block(0, 100, 99);
+        t.block(0, 100, 99);
+        edges.due("both BURNT, turned", t.springs(1, 0), 2);
+        edges.due("HEADS above", t.springs(1, 2), 0);
+        edges.due("the other HEADS", t.springs(2, 2), 1);
         PavedAnew split = Streets.underLaw("m1");
         split.block(2, 98, 100);
         split.block(2, 98, 100);

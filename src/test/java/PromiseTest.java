@@ -174,29 +174,31 @@ public final class PromiseTest {
 
     // 5
     private void law() {
-        PavedAnew x = new PavedAnew();
-        due("5: an empty text", x.law(), 1);
-        int read = 1;
         for (int bits = 0; bits < 8; bits++) {
-            for (int most = 1; most <= 10; most++) {
-                String text = ((bits & 1) != 0 ? "n" : "") + ((bits & 2) != 0 ? "t" : "") + ((bits & 4) != 0 ? "w" : "")
-                        + (most < 10 ? "m" + most : "");
-                x.letters(Checks.word(text));
-                read++;
-                due("5: law " + text, x.law(), read);
-                due("5: THE PAGE is empty then", x.count(1), 0);
-                due("5: n of " + text, x.lawTold(0), bits & 1);
-                due("5: t of " + text, x.lawTold(1), bits >> 1 & 1);
-                due("5: w of " + text, x.lawTold(2), bits >> 2 & 1);
-                due("5: MOST of " + text, x.lawTold(3), most);
-            }
+            lawsOf(bits);
         }
-        x.law();
+        PavedAnew x = underLaw("ntwm4");
+        due("5: an empty text", x.law(), 2);
         for (int what = 0; what < 4; what++) {
             due("5: another one is gone, " + what, x.lawTold(what), what < 3 ? 0 : 10);
         }
         for (String text : new String[] {"m", "ntwm", "nn", "tn", "m0", "m12", "x", "ntx", "mt", "wn"}) {
             noLaw(text);
+        }
+    }
+
+    private void lawsOf(int bits) {
+        PavedAnew x = new PavedAnew();
+        for (int most = 1; most <= 10; most++) {
+            String text = ((bits & 1) != 0 ? "n" : "") + ((bits & 2) != 0 ? "t" : "") + ((bits & 4) != 0 ? "w" : "")
+                    + (most < 10 ? "m" + most : "");
+            x.letters(Checks.word(text));
+            due("5: law " + text, x.law(), most);
+            due("5: THE PAGE is empty then", x.count(1), 0);
+            due("5: n of " + text, x.lawTold(0), bits & 1);
+            due("5: t of " + text, x.lawTold(1), bits >> 1 & 1);
+            due("5: w of " + text, x.lawTold(2), bits >> 2 & 1);
+            due("5: MOST of " + text, x.lawTold(3), most);
         }
     }
 

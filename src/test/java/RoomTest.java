@@ -51,7 +51,7 @@ public final class RoomTest {
         for (int i = 0; i < 10; i++) {
             sum += x.springs(12, i % 3);
         }
-        for (int i = 0; i < 380; i++) {
+        for (int i = 0; i < 330; i++) {
             sum += anyOther(x, i);
         }
         return sum;

@@ -23,6 +23,7 @@ public final class SpringEdgesTest {
         t.noTwoThatLayTogether();
         t.twinsBesideTwins();
         t.lawfulByHowTheyLieNow();
+        t.lawfulByTheLawOfNow();
         t.lawfulRefused();
         t.aYearByKind();
         t.nineHundredNinetyNineAtMost();
@@ -201,6 +202,32 @@ public final class SpringEdgesTest {
         long before = y.digest();
         edges.due("it is", y.lawful(Streets.inOrder(4)), 1);
         edges.due("nothing is LAID", y.digest(), before);
+    }
+
+    /** What was found by an earlier LAW, or of other BLOCKS, is of no weight. */
+    private void lawfulByTheLawOfNow() {
+        edges.sentence(5, "THE PAGE is read as THE LAW (another one is gone)");
+        PavedAnew x = Streets.of("nw", 3, 0, 3, 0);
+        edges.due("by nw", x.howMany(), 2);
+        x.law();
+        edges.due("by none", x.howMany(), 24);
+        edges.due("the first by none", x.best(1), Checks.order(0, 1, 2, 3));
+        Streets.write(x, "w");
+        x.law();
+        edges.due("by w", x.howMany(), 12);
+        x.thief(2);
+        edges.due("one TWIN is left", x.howMany(), 0);
+        x.thief(0);
+        edges.due("no TWIN is left", x.howMany(), 2);
+        edges.due("no TWIN, the first", x.best(1), Checks.order(0, 1));
+        PavedAnew strict = Streets.plain("", 4);
+        edges.due("by none first", strict.howMany(), 24);
+        Streets.write(strict, "n");
+        strict.law();
+        edges.due("then by n", strict.howMany(), 2);
+        edges.due("the first by n", strict.best(1), Checks.order(1, 3, 0, 2));
+        strict.lay(Checks.order(1, 3, 0, 2));
+        edges.due("the first by how they lie now", strict.best(1), Checks.order(0, 1, 2, 3));
     }
 
     private void lawfulRefused() {

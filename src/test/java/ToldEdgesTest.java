@@ -6,7 +6,7 @@ import java.util.List;
 /** The edges that promises 27 to 30 name: images, counts and the digest, sentence by sentence. */
 public final class ToldEdgesTest {
     private static final int LEAST = Edges.LEAST, MOST = Edges.MOST;
-    private static final int OUTSIDE = Edges.OUTSIDE, STATE = Edges.STATE;
+    private static final int UNKNOWN = Edges.UNKNOWN, OUTSIDE = Edges.OUTSIDE, STATE = Edges.STATE;
 
     private final Edges edges = new Edges("ToldEdgesTest");
 
@@ -25,6 +25,7 @@ public final class ToldEdgesTest {
         t.countWheelsUnderBlocks();
         t.countRefused();
         t.refusedCallsAreNotCounted();
+        t.ofSeveralRefusalsTheFirst();
         t.digestOfFewBlocks();
         t.digestFromTwoBlocksOn();
         t.digestByLaw();
@@ -208,6 +209,32 @@ public final class ToldEdgesTest {
         for (int what = 0; what <= 6; what++) {
             edges.due("count " + what, x.count(what), want[what]);
         }
+    }
+
+    /** One call of each kind for which more than one refusal would be due. */
+    private void ofSeveralRefusalsTheFirst() {
+        edges.sentence(0, "Refusals, of several the first as told by each call: UNKNOWN (a number names nothing),"
+                + " OUTSIDE (it is not as told), STATE (as told), FULL");
+        PavedAnew full = Streets.plain("n", 7);
+        Streets.write(full, "0123456789abcdef");
+        edges.due("letters: OUTSIDE, FULL", full.letters(255), OUTSIDE);
+        edges.due("block: OUTSIDE, FULL", full.block(-1, 0, 0), OUTSIDE);
+        edges.due("about: UNKNOWN, OUTSIDE", full.about(7, 5), UNKNOWN);
+        edges.due("as: UNKNOWN, OUTSIDE", full.as(7, 5), UNKNOWN);
+        edges.due("wheels: UNKNOWN, OUTSIDE", full.wheels(7, 10), UNKNOWN);
+        edges.due("was: UNKNOWN, OUTSIDE", full.was(7, 1000), UNKNOWN);
+        edges.due("lay: OUTSIDE, STATE", full.lay(0), OUTSIDE);
+        PavedAnew one = Streets.plain("n", 1);
+        edges.due("thief: UNKNOWN, STATE", one.thief(1), UNKNOWN);
+        edges.due("lay: STATE, OUTSIDE", one.lay(-1), STATE);
+        edges.due("lawful: STATE, OUTSIDE", one.lawful(-1), STATE);
+        edges.due("years: STATE, OUTSIDE", one.years(0), STATE);
+        edges.due("best: STATE, OUTSIDE", one.best(2), STATE);
+        edges.due("carried: STATE, OUTSIDE", one.carried(-1, 3), STATE);
+        edges.due("flood: STATE, OUTSIDE", one.flood(-1), STATE);
+        edges.due("last: STATE, OUTSIDE", one.last(2), STATE);
+        edges.due("sure: UNKNOWN, STATE", one.sure(1), UNKNOWN);
+        edges.due("springs: STATE, OUTSIDE", one.springs(13, 3), STATE);
     }
 
     // ---- 30
