@@ -296,7 +296,8 @@ public final class LawEdgesTest {
 
     private void noLaw() {
         edges.sentence(5, "STATE: it is none.");
-        for (String text : new String[] {"m", "nm", "ntwm", "m0", "m:", "m10", "nn", "tn", "wt", "mn", "1", "N", "ntw ", "x"}) {
+        for (String text : new String[] {"m", "nm", "ntwm", "m0", "m:", "m10", "nn", "tn", "wt", "mn", "1", "N", "ntw ", "x", "xn", "ntxm1", "nnt",
+            "tnw", "m0n", "m1m1", "ntwm9w"}) {
             edges.refused("'" + text + "'", () -> {
                 PavedAnew x = Streets.rich("tm3", 3);
                 x.blank();

@@ -354,6 +354,9 @@ public final class SpringEdgesTest {
         edges.due("the worn one in a better PLACE, the first such", x.best(1), Checks.order(0, 2, 1, 3));
         edges.due("the first LAWFUL one", Streets.plain("n", 4).best(1), Checks.order(1, 3, 0, 2));
         edges.due("of five", Streets.plain("n", 5).best(1), Checks.order(0, 2, 4, 1, 3));
+        PavedAnew high = Streets.worn("n", 999, 0, 0, 0);
+        edges.due("the first LAWFUL one, where none is better than 999", high.best(1), Checks.order(1, 3, 0, 2));
+        edges.due("of 999", high.best(0), 999);
     }
 
     private void bestByTheLaw() {
