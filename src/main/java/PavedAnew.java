@@ -132,7 +132,7 @@ public final class PavedAnew {
         return street.size();
     }
 
-    // ---- springs
+    // ---- springs (STATE: fewer than two BLOCKS)
 
     public int lay(int order) {
         if (isTooShort()) {

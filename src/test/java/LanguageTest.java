@@ -108,9 +108,11 @@ public final class LanguageTest {
         }
         checks.holds("no lambda", !code.contains("->") && !code.contains("::"));
         checks.holds("signs 1 to 127 alone", source.chars().allMatch(c -> c > 0 && c < 128));
-        Matcher system = Pattern.compile("System\\.(\\w+)").matcher(code);
-        while (system.find()) {
-            checks.holds("System." + system.group(1), system.group(1).equals("arraycopy"));
+        Set<String> listed = Set.of("Math.abs", "Math.max", "Math.min", "Integer.bitCount", "System.arraycopy");
+        Matcher called = Pattern.compile("\\b(\\p{Upper}\\w*)\\.(\\w+)\\(").matcher(code);
+        while (called.find()) {
+            boolean own = code.contains("private static final class " + called.group(1) + " {");
+            checks.holds("a call that rule 4 lists: " + called.group(), own || listed.contains(called.group(1) + "." + called.group(2)));
         }
     }
 
